@@ -221,6 +221,17 @@ public final class HoursTest {
         due("sink(0, 0, -1)", x.sink(0, 0, -1), -10);
         due("status(0)", x.status(0), 5);
         due("the ballast stays", x.ballast(0, 0), 50);
+        sinkByAll();
+    }
+
+    private static void sinkByAll() {
+        FourWaters x = new FourWaters();
+        x.thing(SHIP, 2, 5);
+        x.thing(SHIP, 1, 5);
+        due("sink(0, 0, 4), by 99", x.sink(0, 0, 4), 99);
+        due("bestHour(0, 0, 4), by 99", x.bestHour(0, 0, 4), 0);
+        due("sink(1, 0, 4), by none", x.sink(1, 0, 4), -1);
+        due("bestHour(1, 0, 4), by none", x.bestHour(1, 0, 4), -1);
     }
 
     private static void holds() {

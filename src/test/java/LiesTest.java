@@ -12,6 +12,7 @@ public final class LiesTest {
         liesRefused();
         wentIn();
         nets();
+        netsForSix();
         netsRefused();
         tap();
         known();
@@ -39,6 +40,8 @@ public final class LiesTest {
         dueLies(x, 2, 0, 20, 1, 70);
         dueLies(x, 2, 0, 999, 1, 70);
         dueLies(x, 9, 4, 0, -1, -1);
+        dueLies(x, 9, 0, 0, 1, 90);
+        dueLies(x, 1, 4, 0, 21, 99);
         x.hours(50);
         dueLies(x, 2, 1, 0, 21, 26);
         x.tide(0, 2, -2);
@@ -129,6 +132,22 @@ public final class LiesTest {
         due("nets, deeper, later", x.nets(1, 10, 1), 109);
     }
 
+    private static void netsForSix() {
+        FourWaters x = new FourWaters();
+        for (int weight : new int[] {11, 15, 30, 10, 13, 16}) {
+            x.thing(5, weight, 1);
+        }
+        // Only the one that weighs 10 floats on layer 0; the others pass it, and skin 0 stops them.
+        due("nets(0, 55, 0)", x.nets(0, 55, 0), 3 * 58);
+        x.thick(0, 0, 0);
+        // Now the first is layer 1: 0 for 11, 10 and 13; 3 for the others.
+        due("nets(0, 38, 0)", x.nets(0, 38, 0), 3 * 58);
+        due("nets(0, 25, 0)", x.nets(0, 25, 0), 3);
+        due("nets(0, 63, 1)", x.nets(0, 63, 1), 3);
+        due("nets(0, 63, 0)", x.nets(0, 63, 0), 58);
+        due("nets(0, 64, 0)", x.nets(0, 64, 0), -10);
+    }
+
     private static void netsRefused() {
         FourWaters x = new FourWaters();
         x.thing(5, 10, 2);
@@ -176,6 +195,9 @@ public final class LiesTest {
         due("known(2, 1)", x.known(2, 1), 3);
         due("known(5, 1), 50 or 49", x.known(5, 1), 0);
         due("known(4, 1), 52 or 47", x.known(4, 1), 1);
+        due("known(1, 0)", x.known(1, 0), 99);
+        due("known(9, 0)", x.known(9, 0), 99);
+        due("known(9, 1), 90 or 9", x.known(9, 1), 0);
         x.drop(3, true);
         due("known(2, 0)", x.known(2, 0), 40);
         due("known(2, 1)", x.known(2, 1), 0);

@@ -100,6 +100,29 @@ public final class TextTest {
         due("an item more", read("sea 3;thick 0 1"), -25);
         due("a word more", read("sea 3;thick"), -21);
         due("a whole text", read("sea 3;"), 1);
+        behindTheEnd();
+        fullText();
+    }
+
+    /** What an earlier, longer text left behind the end of this one is not read. */
+    private static void behindTheEnd() {
+        FourWaters x = new FourWaters();
+        Check.read(x, "sea 3;dam 0;dam 1;");
+        due("; behind the end", Check.read(x, "sea 3"), -15);
+        due("a figure behind the end", Check.read(x, "sea "), -14);
+        due("letters behind the end", Check.read(x, "sea 3;da"), -16);
+        due("an item behind the end", Check.read(x, "sea 3;"), 1);
+    }
+
+    private static void fullText() {
+        String blanks = " ".repeat(150);
+        due("150 blanks", read(blanks), -160);
+        due("150 bytes, an item at last", read("sea 2;" + blanks.substring(0, 138) + "dam 0;"), 2);
+        due("150 bytes, blanks at last", read("sea 2;" + blanks.substring(0, 144)), 1);
+        due("150 bytes, letters at last", read("sea 2;" + blanks.substring(0, 141) + "dam"), -160);
+        due("150 bytes, one figure at last", read("sea 2;" + blanks.substring(0, 139) + "dam 0"), -160);
+        due("150 bytes, two figures at last", read("sea 2;" + blanks.substring(0, 138) + "dam 00"), -160);
+        due("14 items", read("sea6;" + "thick0 0 1;".repeat(13)), 14);
     }
 
     /** A third figure begins a number that can not stand there. */

@@ -10,7 +10,9 @@ public final class TownsTest {
     public static void main(String[] args) {
         soonest();
         soonestByTide();
+        soonestByTenLifts();
         net();
+        netOfSix();
         spill();
         spillByDams();
         keepOut();
@@ -33,6 +35,8 @@ public final class TownsTest {
         x.thick(1, 2, 0);
         due("soonest(0, 1), a gap", x.soonest(0, 1), -1);
         due("soonest(21, 21), not thick", x.soonest(21, 21), 0);
+        due("soonest(21, 31), not thick here", x.soonest(21, 31), -1);
+        due("soonest(11, 21), not thick there", x.soonest(11, 21), -1);
         x.lift(21, 11, 9);
         due("soonest(21, 1), by a lift from where it is not thick", x.soonest(21, 1), 12);
         x.lift(21, 11, 4);
@@ -53,6 +57,35 @@ public final class TownsTest {
         due("soonest(2, 22), tide out", x.soonest(2, 22), -1);
         x.hours(1);
         due("soonest(2, 22), tide in", x.soonest(2, 22), 6);
+    }
+
+    private static void soonestByTenLifts() {
+        FourWaters x = new FourWaters();
+        x.sea(6);
+        for (int i = 0; i < 9; i++) {
+            x.lift(0, 53, 9);
+        }
+        due("soonest(0, 53)", x.soonest(0, 53), 9);
+        due("soonest(50, 3)", x.soonest(50, 3), 39);
+        x.lift(53, 0, 8);
+        due("soonest(0, 53), by the last", x.soonest(0, 53), 8);
+        due("soonest(50, 52)", x.soonest(50, 52), -1);
+    }
+
+    private static void netOfSix() {
+        FourWaters x = new FourWaters();
+        x.sea(6);
+        int[] places = {53, 50, 51, 52, 40, 3};
+        int[] due = {-9, 1, 2, 6, 0, 0};
+        for (int place : places) {
+            x.town(place);
+        }
+        x.thick(1, 5, 1);
+        x.thick(3, 5, 9);
+        for (int i = 0; i < 6; i++) {
+            due("net(" + i + ") of six", x.net(i), due[i]);
+        }
+        due("net(6) of six", x.net(6), -1000);
     }
 
     private static void net() {
