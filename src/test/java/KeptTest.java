@@ -15,8 +15,10 @@ public final class KeptTest {
         imagesKeepWhatMayBeUndone();
         status();
         count();
+        countOfFull();
         digestAtFirst();
         digestOfAll();
+        digestOfFull();
         check.end();
     }
 
@@ -40,7 +42,7 @@ public final class KeptTest {
         x.current(2, 1);
         x.thing(1, 22, 2);
         x.ballast(0, 3);
-        x.lift(0, 1, 5);
+        x.lift(21, 1, 5);
         x.town(3);
         x.town(10);
         x.dam(1, true);
@@ -183,6 +185,14 @@ public final class KeptTest {
         due("status(0)", x.status(0), 2);
     }
 
+    private static void countOfFull() {
+        FourWaters x = Told.full(6);
+        int[] due = {6, 999, 6, 10, 6, 31, 6, 10, 150};
+        for (int what = 0; what < due.length; what++) {
+            due("count(" + what + ") of a full one", x.count(what), due[what]);
+        }
+    }
+
     private static void add(long... values) {
         for (long v : values) {
             h = 31 * h + v;
@@ -215,11 +225,34 @@ public final class KeptTest {
         add(20, 0, 0, 0, 0, 0, 0, -1, 3, 3, 3);
         add(99, 44, 0);
         add(1, 22, 2, 3);
-        add(0, 1, 5);
+        add(21, 1, 5);
         add(3, 10);
         add(1, 1, 2, 0);
         add(3, 10);
         due("digest of all", x.digest(), h);
         due("digest again", x.digest(), h);
+    }
+
+    /** Every row to its last one; Told has what was told. */
+    private static void digestOfFull() {
+        h = 887;
+        add(6, 999, 6, 10, 6, 31, 6, 10, 150);
+        add(9, 1, 0, 1, 0, 0, 0, 0, 3, 3, 3, 3, 3, 2);
+        add(13, 0, 0, 0, 0, 0, 0, 0, 5, 3, 3, 3, 3, 3);
+        add(16, -1, 0, 0, 0, 0, 0, 0, 3, 3, 3, 3, 3, 3);
+        add(21, 0, 0, 0, 0, 0, 0, -1, 8, 3, 3, 3, 3, 3);
+        add(15, 0, 30);
+        add(1, 30, 2, 5);
+        add(0, 20, 2, 0);
+        add(2, 40, 1, 0);
+        add(5, 25, 1, 0);
+        add(3, 10, 3, 7);
+        add(4, 60, 2, 0);
+        add(0, 3, 4, 2, 51, 2);
+        add(0, 3, 9, 0, 1, 9, 0, 2, 9, 0, 3, 9, 0, 1, 9, 0, 2, 9, 0, 3, 9, 0, 1, 9);
+        add(0, 1, 2, 10, 11, 12);
+        add(1, 1, 0, 0, 3, 1, 3, 1, 3, 1, 3, 1);
+        add(51, 100);
+        due("digest of a full one", Told.full(6).digest(), h);
     }
 }

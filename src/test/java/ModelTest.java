@@ -1,6 +1,5 @@
 import java.lang.reflect.Method;
 import java.util.ArrayList;
-import java.util.Comparator;
 import java.util.List;
 import java.util.Random;
 
@@ -8,17 +7,11 @@ import java.util.Random;
 public final class ModelTest {
     private static final int RUNS = 400, CALLS = 512;
     private static final String[] WORDS = {"water", "thick", "skin", "thing", "lift", "town", "dam", "sea", "tow"};
-    private static final List<Method> METHODS = new ArrayList<>();
+    private static final List<Method> METHODS = Calls.all();
     private static Random draw;
     private static final List<String> queue = new ArrayList<>();
 
-    public static void main(String[] args) throws ReflectiveOperationException {
-        for (Method m : FourWaters.class.getDeclaredMethods()) {
-            if (java.lang.reflect.Modifier.isPublic(m.getModifiers())) {
-                METHODS.add(m);
-            }
-        }
-        METHODS.sort(Comparator.comparing(Method::getName));
+    public static void main(String[] args) {
         int wrong = 0;
         int[] good = new int[METHODS.size()];
         for (int run = 0; run < RUNS && wrong == 0; run++) {
@@ -36,7 +29,7 @@ public final class ModelTest {
         }
     }
 
-    private static int run(int run, int[] good) throws ReflectiveOperationException {
+    private static int run(int run, int[] good) {
         draw = new Random(run);
         queue.clear();
         FourWaters x = new FourWaters();
@@ -50,9 +43,9 @@ public final class ModelTest {
                 a[0] = queue.remove(0).charAt(0);
             }
             long refused = refusals(model);
-            long got = ((Number) m.invoke(x, boxed(m, a))).longValue();
+            long got = Calls.call(x, m, a);
             long due = model.call(m.getName(), a);
-            told.add(m.getName() + java.util.Arrays.toString(a) + " = " + got);
+            told.add(Calls.told(m.getName(), a) + " = " + got);
             boolean isSame = got == due && x.digest() == model.call("digest");
             for (int what = 0; what < 3; what++) {
                 isSame &= x.status(what) == model.call("status", what);
@@ -193,13 +186,5 @@ public final class ModelTest {
             case "count": return new int[] {0, 8};
             default: return new int[] {0, 9};
         }
-    }
-
-    private static Object[] boxed(Method m, int[] a) {
-        Object[] all = new Object[a.length];
-        for (int i = 0; i < a.length; i++) {
-            all[i] = m.getParameterTypes()[i] == boolean.class ? (Object) (a[i] == 1) : (Object) a[i];
-        }
-        return all;
     }
 }

@@ -23,6 +23,7 @@ public final class SeaTest {
         dam();
         drop();
         clean();
+        cleanFull();
         check.end();
     }
 
@@ -318,5 +319,24 @@ public final class SeaTest {
         due("count(1)", x.count(1), 9);
         due("thing", x.thing(0, 1, 1), 0);
         due("town", x.town(3), 0);
+    }
+
+    /** From full to empty, each row by itself. */
+    private static void cleanFull() {
+        FourWaters x = Told.full(6);
+        int[] had = {6, 10, 6, 6};
+        int[] counts = {2, 3, 4, 6};
+        for (int what = 0; what < 4; what++) {
+            due("clean(" + what + ")", x.clean(what), had[what]);
+            for (int i = 0; i < 4; i++) {
+                due("count(" + counts[i] + ") behind it", x.count(counts[i]), i <= what ? 0 : had[i]);
+            }
+            due("clean(" + what + ") again", x.clean(what), 0);
+        }
+        due("dams", x.count(5), 31);
+        due("bytes", x.count(8), 150);
+        due("the hour", x.count(1), 999);
+        due("clear", x.clear(), 150);
+        due("clear again", x.clear(), 0);
     }
 }
